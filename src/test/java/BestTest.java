@@ -139,6 +139,10 @@ public final class BestTest {
         Due.tell(x, 0, "e*q*q");
         Due.is("16: all but the first", x.bends(0), 3);
         Due.row("16: the most is not the first", x, 2, 24);
+        // (0, 4) has 4 times 0 and (1, 3) 4 times 0; (4, 0) for THOUGHT (1, 3) is 1 more than the truth
+        Due.tell(x, 0, "(1-e)*(q=4)");
+        Due.is("16: some lose just 1", x.bends(0), 3);
+        Due.row("16: some lose just 1", x, 3, 3);
     }
 
     private static void promise17() {
@@ -182,9 +186,11 @@ public final class BestTest {
         Due.is("18: at one EVENT alone", x.same(0, 1), 0);
         Due.tell(x, 1, "q+(q=0)*(1-e)");
         Due.is("18: at one EVENT alone", x.same(0, 1), 0);
-        // they are 2 to the 32 apart at some SAYINGS, which as ints would be 0
-        Due.tell(x, 0, "(q>2)*8192*8192*32");
-        Due.tell(x, 1, "(q>2)*(8192*8192*31+8192*8191+8191)");
+        Due.tell(x, 1, "q+(q=1)*(1-e)");
+        Due.is("18: at one SAYING alone", x.same(0, 1), 0);
+        // 2 to the 31 apart at some SAYINGS and less that at others: as ints the same
+        Due.tell(x, 0, "8192*8192*16*(2*(q>2)-1)");
+        Due.tell(x, 1, "8192*8192*16*(1-2*(q>2))");
         Due.is("18: not as ints", x.same(0, 1), 0);
     }
 
@@ -216,8 +222,9 @@ public final class BestTest {
             Due.is("19: no PAY", x.alike(0, p), -1);
         }
         Due.row("19: the ROW stays", x, 1);
-        Due.tell(x, 0, "(q>2)*8192*8192*32");
-        Due.tell(x, 1, "(q>2)*8192*8192*0");
+        // twice the one is 2 to the 32 for some SAYINGS: as ints nothing
+        Due.tell(x, 0, "8192*8192*32*(q>2)");
+        Due.tell(x, 1, "7");
         Due.is("19: not as ints", x.alike(0, 1), 0);
     }
 

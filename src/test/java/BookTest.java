@@ -214,6 +214,22 @@ public final class BookTest {
         Due.row("51: two of five", x, 2, 1);
         Due.is("51: (4, 0)", x.meant(4), 1);
         Due.row("51: it did not come", x, 0, 0);
+        x.evening(2, 4, 0);
+        x.word(5, 2, 2);
+        Due.is("51: one of two", x.meant(4), 2);
+        Due.row("51: one of two", x, 1, 0);
+        x.forget();
+        PaidForThinking y = new PaidForThinking();
+        y.person(0);
+        y.word(0, 4, 4);
+        y.evening(0, 4, 0);
+        Due.is("51: one alone", y.meant(0), 1);
+        Due.row("51: one alone", y, 1, 1);
+        y.word(0, 0, 0);
+        Due.is("51: not said for it", y.meant(0), 0);
+        y.evening(0, 0, 1);
+        Due.is("51: one alone that did not come", y.meant(0), 1);
+        Due.row("51: one alone that did not come", y, 0, 1);
         x.word(4, 1, 1);
         Due.is("51: another PART", x.meant(4), 1);
         Due.row("51: another PART, too little", x, 0, 0);
@@ -227,7 +243,10 @@ public final class BookTest {
         Due.row("51: too little", x, 3, 0);
         Due.is("51: of all", x.meant(1), 6);
         Due.row("51: 4 of 6 are 2 2/3 of 4", x, 4, 1);
-        int[] wrong = {5, -1, 6, MIN, MAX};
+        Due.is("51: told, but never said", x.meant(5), 1);
+        Due.row("51: once, and more than 2 of 4", x, 1, 0);
+        x.meant(1);
+        int[] wrong = {-1, 6, MIN, MAX};
         for (int i : wrong) {
             Due.is("51: not told, or none such", x.meant(i), -1);
         }
@@ -254,6 +273,21 @@ public final class BookTest {
         Due.row("52: three by q", x, 2, 4);
         x.evening(2, 4, 1);
         Due.is("52: the EVENT does not count", x.thinks(0, 2), 1);
+        x.go();
+        x.person(1);
+        x.person(0);
+        x.person(0);
+        x.evening(0, 1, 0);
+        x.evening(0, 3, 0);
+        Due.is("52: the first of two", x.thinks(0, 0), 0);
+        x.forget();
+        x.evening(1, 3, 0);
+        Due.is("52: one each", x.thinks(0, 0), 1);
+        Due.row("52: one each", x, 1, 1);
+        Due.is("52: one each", x.thinks(0, 1), 1);
+        Due.row("52: one each", x, 3, 3);
+        x.evening(2, 4, 1);
+        x.thinks(0, 2);
         for (int who : NOBODY) {
             Due.is("52: nobody", x.thinks(0, who), -1);
         }

@@ -61,6 +61,8 @@ public final class DecidingTest {
         // then decides the other way, 32 or 40; (1, 3), 56 for then, the first one
         tossed(x, 0, new int[] {1, 0, 2}, 18, 22 * 32 + 18 * 64, 2240);
         tossed(x, 0, new int[] {1, 0, 3}, 16, 24 * 40 + 16 * 64, 2240);
+        tossed(x, 0, new int[] {0, 0, 4}, 0, 2560, 2560);
+        promise41Ends();
         tossed(x, 2, new int[] {2, 0, 4}, 0, 1120, 1120);
         int[][] none = {{2, 3, 1}, {2, 1, 3}};
         for (int[] n : none) {
@@ -74,6 +76,19 @@ public final class DecidingTest {
         Due.tell(x, 0, "2*d*q-s");
         Due.is("41: twelve STEPS", x.coin(0, 12, 12, 6), 0);
         Due.row("41: twelve STEPS", x, 40 * 1728, 40 * 1728);
+    }
+
+    private static void promise41Ends() {
+        // as above, but each WORTH is 400 less: below 0 all of them
+        PaidForThinking x = Due.with("2*d*q-s-100");
+        tossed(x, 0, new int[] {2, 2, 4}, 18, 22 * 32 + 18 * 64 - 16000, 2560 - 16000);
+        tossed(x, 0, new int[] {1, 0, 2}, 18, 22 * 32 + 18 * 64 - 16000, 2240 - 16000);
+        x.table(2, 5);
+        Due.tell(x, 0, "q*4-q*q/2");
+        tossed(x, 0, new int[] {2, 0, 3}, 20, 1520, 1600);
+        x.table(3, 5);
+        Due.tell(x, 0, "2*d*q-s");
+        tossed(x, 0, new int[] {1, 8, 0}, 19, 3320, 5000);
     }
 
     private static void promise41Wrong(PaidForThinking x) {
@@ -119,6 +134,9 @@ public final class DecidingTest {
         said(x, 0, x.saying(1, 1, 0, 3), 3, 3, 3);
         said(x, 0, x.saying(2, 0, 0, 3), 3, 3, 3);
         said(x, 1, x.saying(1, 0, 1, 3), 1, 3, 3);
+        x.table(2, 12);
+        said(x, 0, 6, 0, 0, 0);
+        said(x, 0, 5, 1, 1, 1);
         x.table(3, 4);
         said(x, 0, x.saying(2, 1, 1, 0), 0, 0, 0);
         said(x, 0, x.saying(1, 1, 2, 0), 2, 1, 2);

@@ -35,6 +35,7 @@ public final class KeptTest {
     }
 
     private static void isFilled(String what, PaidForThinking x) {
+        Due.is(what + ": t goes by TURN", x.gets(0, 2, 0), -50);
         Due.is(what + ": PEOPLE", x.count(4), 2);
         Due.is(what + ": EVENINGS", x.count(5), 2);
         Due.is(what + ": WORDS", x.count(6), 2);
@@ -42,7 +43,6 @@ public final class KeptTest {
         Due.is(what + ": a WORD", x.words(0), 0);
         Due.is(what + ": TURN", x.turn(2, -50), -50);
         Due.is(what + ": TURN", x.turn(3, 9), 9);
-        Due.is(what + ": t goes by it", x.gets(0, 2, 0), -50);
         Due.is(what + ": an EVENING", x.paid(1, 1), 1);
         Due.row(what + ": an EVENING", x, 16, 16, 4);
         Due.is(what + ": an EVENING", x.paid(1, 0), 1);

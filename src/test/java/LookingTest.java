@@ -41,6 +41,10 @@ public final class LookingTest {
         looks(x, 1, x.saying(0, 1, 1, 0), 5, 1, 10, 2);
         looks(x, 1, 0, 999, 0, 0, 1);
         Due.is("26: one digit too many", x.look(1, 0, 1000, 0), -1);
+        Due.tell(x, 2, "q=2");
+        looks(x, 2, 4, 307, 5, 3, 34);
+        x.table(2, 2);
+        looks(x, 2, 1, 67, 21, 1, 420);
         x.table(4, 1);
         looks(x, 1, 0, 9999, 0, 0, 1);
         Due.is("26: one digit too many", x.look(1, 0, 10000, 0), -1);
@@ -182,6 +186,7 @@ public final class LookingTest {
         bribed(x, new int[] {1, 2, 0, 3, 1}, 3, -1);
         bribed(x, new int[] {1, 2, 0, 3, 0}, 0, 1);
         bribed(x, new int[] {1, 3, 0, 3, 1}, 4, -1);
+        bribed(x, new int[] {1, 3, 0, 4, 1}, 4, -1);
         bribed(x, new int[] {1, 3, 1, 1, 1}, 3, 1);
         bribed(x, new int[] {1, 3, 1, 1, 0}, 4, -1);
         bribed(x, new int[] {2, 2, 1, 1, 1}, 0, 1);
@@ -210,6 +215,19 @@ public final class LookingTest {
         Due.tell(y, 0, "(q=3)*(1-e)");
         bribed(y, new int[] {0, 3, 0, 4, 7499}, 4, 9999);
         bribed(y, new int[] {0, 3, 0, 4, 7500}, 4, -1);
+        // 4 by 3, and 4 by 1
+        bribed(y, new int[] {0, 3, 0, 4, 1}, 4, 2);
+        Due.tell(y, 0, "(q=1)*(1-e)");
+        bribed(y, new int[] {0, 1, 0, 4, 1}, 4, 4);
+        y.table(2, 1);
+        Due.tell(y, 0, "7");
+        bribed(y, new int[] {0, 0, 0, 1, 1}, 1, -1);
+        Due.tell(y, 0, "q");
+        bribed(y, new int[] {0, 0, 0, 1, 1}, 0, 1);
+        bribed(y, new int[] {0, 0, 0, 1, 2}, 1, 2);
+        Due.tell(y, 0, "0-q");
+        bribed(y, new int[] {0, 0, 0, 1, 1}, 1, -1);
+        bribed(y, new int[] {0, 0, 1, 1, 1}, 0, 1);
     }
 
     private static void promise30Wrong(PaidForThinking x) {
@@ -252,6 +270,10 @@ public final class LookingTest {
         Due.is("31: 1 by 2 STEPS", x.safe(0), 0);
         Due.tell(x, 0, "2*d*q-s-(q=1)*e*5");
         Due.is("31: 1 too few", x.safe(0), -2);
+        Due.tell(x, 0, "2*d*q-s+(q=1)*e");
+        Due.is("31: the first THOUGHT is the least safe", x.safe(0), 1);
+        Due.tell(x, 0, "2*d*q-s+3*(q=1)*e");
+        Due.is("31: the first THOUGHT alone is not", x.safe(0), -2);
         x.table(3, 1);
         Due.tell(x, 0, "9*q");
         Due.is("31: one STEP", x.safe(0), 9);

@@ -35,6 +35,8 @@ public final class MadeTest {
         Due.is("20: bent downwards and straight", x.make(1), 1);
         x.turn(4, 0);
         Due.is("20: not at the end", x.make(1), 0);
+        turnTo(x, 0, 5, 6, 7, 8);
+        Due.is("20: not at the beginning", x.make(1), 0);
         x.best(3, 0);
         for (int i : NO_PLACE) {
             Due.is("20: no such PAY", x.make(i), -1);
@@ -92,14 +94,16 @@ public final class MadeTest {
     }
 
     private static void promise22() {
-        PaidForThinking x = Due.with("q", "2*e-2", "9999+e", "0-9999-e");
+        PaidForThinking x = Due.with("q", "2*e-2", "9999+e", "e-9999-1");
         x.best(0, 0);
         Due.is("22: take", x.take(0), true);
         turnIs("22: by STEPS, those behind stay", x, 4, 3, 2, 3, 4);
         Due.is("22: below 0", x.take(1), true);
         turnIs("22: cut to 0", x, -2, -1, -1, 0, 0);
         Due.is("22: above 9999", x.take(2), false);
-        Due.is("22: below -9999", x.take(3), false);
+        Due.is("22: below -9999 for PART 0", x.take(3), false);
+        Due.tell(x, 3, "0-9999-e");
+        Due.is("22: below -9999 for all of them", x.take(3), false);
         turnIs("22: refused ones change nothing", x, -2, -1, -1, 0, 0);
         Due.is("22: 9999", Due.tell(x, 2, "9999"), 0);
         Due.is("22: 9999", x.take(2), true);
@@ -136,7 +140,10 @@ public final class MadeTest {
         payIs("23: a text over itself", x, 1, 8, 18, 8, 18, 8, 18, 8, 18, 8, 18);
         Due.is("23: the ends", x.mix(3, 0, 0, 9, -9), true);
         payIs("23: the ends", x, 3, 0, 0, 0, 0);
+        Due.is("23: the other ends", x.mix(3, 0, 1, -9, 9), true);
+        payIs("23: the other ends", x, 3, 9 * 1, 9 * 11);
         Due.is("23: they are there", x.count(3), 15);
+        Due.is("23: PAY 0", x.mix(0, 0, 1, 1, 0), true);
         Due.tell(x, 0, "8192*8192*31");
         Due.is("23: as ints", x.mix(3, 0, 0, 9, 9), true);
         payIs("23: as ints", x, 3, 18 * 2080374784, 18 * 2080374784);
@@ -172,6 +179,9 @@ public final class MadeTest {
         payIs("24: lift", x, 3, 0, 32, 14, 30, 24, 24, 30, 14, 32, 0);
         Due.is("24: itself", x.lift(2, 2), -4);
         payIs("24: itself", x, 2, 1, 0, 1, 0, 1, 0);
+        Due.is("24: PAY 0", x.lift(0, 0), 16);
+        payIs("24: PAY 0", x, 0, 0, 32, 14, 30, 24, 24, 30, 14, 32, 0);
+        Due.tell(x, 0, "2*d*q-s");
         Due.is("24: NONE may be told so", x.lift(2, 1), -1);
         payIs("24: NONE may be told so", x, 2, 0, 1, 0, 1);
         Due.tell(x, 1, "0-e");

@@ -125,6 +125,15 @@ public final class SeveralTest {
         people(x, 0, 1, 2, 3, 4, 0);
         Due.is("36: six at once", x.rest(1), 0);
         Due.row("36: six at once", x, 0, 1, 2, 3, 4, 0);
+        Due.tell(x, 0, "2*d*q-s");
+        x.table(3, 7);
+        people(x, 28, 32, 21, 23, 19);
+        Due.is("36: 19 rounds change something, and the 20th does not", x.rest(0), 19);
+        x.table(4, 5);
+        people(x, 37, 10, 26, 28, 9, 33);
+        x.best(0, 5);
+        Due.is("36: the 21st would be the first without a change", x.rest(0), -2);
+        Due.row("36: the ROW stays", x, 5);
     }
 
     private static void promise37() {
@@ -169,6 +178,9 @@ public final class SeveralTest {
         // (3, 1) has 1 and 1, and two of (2, 2), (3, 1), (4, 0) have 2 together for EVENT 0 already
         Due.is("38: seven", x.gain(2), 7);
         Due.row("38: seven", x, 0, 1);
+        Due.tell(x, 2, "(q=0)*(1-e)+(q=4)*e");
+        Due.is("38: by the first SAYING alone", x.gain(2), 10);
+        Due.row("38: by the first SAYING alone", x, 0, 1);
         for (int p = 3; p < 5; p++) {
             Due.is("38: no PAY", x.gain(p), -1);
         }

@@ -84,6 +84,10 @@ public final class TellingTest {
             Due.is("3: order of three", x.saying(order[i][0], order[i][1], order[i][2], 0), i);
         }
         Due.is("3: a fourth of three", x.saying(1, 0, 0, 1), -1);
+        x.table(4, 12);
+        x.table(2, 4);
+        Due.is("3: one of the last table", x.saying(0, 0, 5, 7), -1);
+        Due.is("3: one of the last table", x.saying(0, 1, 0, 11), -1);
         x.table(4, 1);
         Due.is("3: four, first", x.saying(0, 0, 0, 1), 0);
         Due.is("3: four, second", x.saying(0, 0, 1, 0), 1);
@@ -143,9 +147,10 @@ public final class TellingTest {
 
     private static void promise6() {
         PaidForThinking x = Due.with("t");
+        Due.is("6: t goes by squares", x.gets(0, 1, 0), 1);
         Due.is("6: ints", x.sheet(2, 3, 5, 2), 666);
-        turnIs("6: ints", x, 5, 7, 9);
         Due.is("6: t goes by it", x.gets(0, 1, 0), 7);
+        turnIs("6: ints", x, 5, 7, 9);
         Due.is("6: none of them", x.sheet(2, 0, 5, 2), 650);
         turnIs("6: none of them", x);
         Due.is("6: bytes go round", x.sheet(0, 3, 127, 1), 127 - 128 - 127 + 650 - 5);
@@ -264,11 +269,17 @@ public final class TellingTest {
         wrongAt("2(", 1);
         wrongAt("(q)(", 3);
         wrongAt("(q)2", 3);
+        wrongAt("(1)2", 3);
+        wrongAt("1+(12)34", 6);
         wrongAt("(q)s", 3);
         wrongAt("12345", 4);
         wrongAt("00000", 4);
         wrongAt("q<t<m", 3);
         wrongAt("q<t>m", 3);
+        wrongAt("q<t+m<2", 5);
+        wrongAt("q<t*m=2", 5);
+        wrongAt("q<-m>2", 4);
+        wrongAt("q<(t)>2", 5);
         wrongAt("q=t=m", 3);
         wrongAt("q=<m", 2);
         wrongAt("q<(t=m)=1", 7);
@@ -331,6 +342,7 @@ public final class TellingTest {
         is("9: 60 signs", many("q+", 29) + "99", 29 * 3 + 99);
         is("9: 60 signs", many("-", 59) + "q", -3);
         leastByMinusOne();
+        behindAWrongOne();
         isNone();
         isNoSuchPay();
     }
@@ -344,6 +356,21 @@ public final class TellingTest {
         Due.is("9: the least int by -1", x.gets(0, 0, 0), MIN);
         Due.is("9: - ahead of the least int", Due.tell(x, 0, "-(8192*8192*-32)"), 0);
         Due.is("9: - ahead of the least int", x.gets(0, 0, 0), MIN);
+    }
+
+    /** What was begun with a wrong text is not gone on with. */
+    private static void behindAWrongOne() {
+        String[] wrong = {"((((q", "-a", "q<t<m", "12a", "2*(3+4a", "q+"};
+        for (String w : wrong) {
+            PaidForThinking x = new PaidForThinking();
+            Due.is("9: wrong: " + w, Due.tell(x, 0, w) < 0, true);
+            Due.is("9: right behind " + w, Due.tell(x, 0, "7<8"), 0);
+            Due.is("9: right behind " + w, x.gets(0, 0, 0), 1);
+            Due.is("9: wrong: " + w, Due.tell(x, 0, w) < 0, true);
+            Due.is("9: wrong behind " + w, Due.tell(x, 0, "7)"), -2);
+            Due.is("9: five in one another behind " + w, Due.tell(x, 0, "(((((7)))))"), 0);
+            Due.is("9: five in one another behind " + w, x.gets(0, 0, 0), 7);
+        }
     }
 
     /** What a text is for SAYING (3, 1) and EVENT 0. */
@@ -421,6 +448,15 @@ public final class TellingTest {
         Due.is("11: the least later", Due.tell(x, 0, "-(q=3)*e"), 0);
         Due.is("11: the least later", x.ends(0), 0);
         Due.row("11: the least later", x, -1, 0, 1, 1);
+        Due.tell(x, 0, "-(q=3)*(1-e)");
+        x.ends(0);
+        Due.row("11: the least later, EVENT 0", x, -1, 0, 3, 0);
+        Due.tell(x, 0, "(q=4)*(1-e)");
+        x.ends(0);
+        Due.row("11: the greatest at the end", x, 0, 1, 0, 0);
+        Due.tell(x, 0, "(q=4)*e-1");
+        x.ends(0);
+        Due.row("11: the greatest of the first SAYING", x, -1, 0, 0, 0);
         Due.is("11: extremes", Due.tell(x, 0, "e*8192*8192*32-(1-e)"), 0);
         x.ends(0);
         Due.row("11: extremes", x, MIN, -1, 0, 1);
