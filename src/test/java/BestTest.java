@@ -192,6 +192,11 @@ public final class BestTest {
         Due.tell(x, 0, "8192*8192*16*(2*(q>2)-1)");
         Due.tell(x, 1, "8192*8192*16*(1-2*(q>2))");
         Due.is("18: not as ints", x.same(0, 1), 0);
+        // 2 to the 31 apart at all of them
+        Due.tell(x, 0, "8192*8192*16+(q=4)");
+        Due.tell(x, 1, "8192*8192*-16+(q=4)");
+        Due.is("18: as far as that everywhere", x.same(0, 1), 1);
+        Due.is("18: as far as that everywhere", x.same(1, 0), 1);
     }
 
     private static void promise19() {

@@ -32,6 +32,7 @@ public final class KeptTest {
         x.person(0);
         x.word(1, 0, 0);
         x.word(4, 0, 4);
+        x.gets(0, 2, 0);
     }
 
     private static void isFilled(String what, PaidForThinking x) {

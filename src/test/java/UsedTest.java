@@ -42,6 +42,7 @@ public final class UsedTest {
             x.ends(p);
         }
         x.keep(0);
+        x.best(1, 0);
         return x;
     }
 
