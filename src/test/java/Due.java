@@ -8,6 +8,14 @@ final class Due {
     private Due() {
     }
 
+    static int wrong() {
+        return wrong;
+    }
+
+    static int asked() {
+        return asked;
+    }
+
     static void is(String what, long got, long due) {
         asked++;
         if (got != due) {

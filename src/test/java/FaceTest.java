@@ -126,9 +126,10 @@ public final class FaceTest {
         }
         face.sort((a, b) -> a.getName().compareTo(b.getName()));
         String[] pays = {"2*d*q-s", "t*e-u/(m-q)", "8192*8192*32/(q-2)*(n<d)", "-(x=1)*q*9999*9999"};
-        for (int run = 0; run < 60; run++) {
+        // with what odd() asks they are less than 512 calls of each object
+        for (int run = 0; run < 120; run++) {
             PaidForThinking x = run % 4 == 0 ? new PaidForThinking() : Due.with(pays);
-            for (int i = 0; i < 500; i++) {
+            for (int i = 0; i < 270; i++) {
                 Method m = face.get(next(face.size()));
                 if (!m.getName().equals("pay") || next(4) == 0) {
                     call(x, m);

@@ -143,11 +143,26 @@ public final class OracleTest {
         } else {
             third(what, table);
         }
-        for (int i = -1; i < 10; i++) {
-            Due.is(last + ": count(" + i + ")", x.count(i), y.count(i));
-        }
-        for (int i = 0; i < Math.min(x.count(7), y.row.length); i++) {
+        int some = next(11) - 1;
+        Due.is(last + ": count(" + some + ")", x.count(some), y.count(some));
+        int numbers = x.count(7);
+        Due.is(last + ": numbers of the ROW", numbers, y.row.length);
+        for (int i = 0; i < Math.min(numbers, y.row.length); i++) {
             Due.is(last + ": row(" + i + ")", x.row(i), y.row[i]);
+        }
+    }
+
+    /** PEOPLE and EVENINGS as many as there can be, or nearly. */
+    private void fill() {
+        for (int i = 0; i < 6; i++) {
+            int t = next(y.all.size());
+            Due.is("person", x.person(t), y.person(t));
+        }
+        for (int i = next(4); i < 40; i++) {
+            int w = next(6);
+            int s = next(y.all.size());
+            int e = next(y.events);
+            Due.is("evening", x.evening(w, s, e), y.evening(w, s, e));
         }
     }
 
@@ -330,32 +345,40 @@ public final class OracleTest {
         tell("table", x.table(events, steps), y.table(events, steps));
     }
 
+    /** As many steps as one object may be called for: each answer that is asked is one call. */
     private void run(int calls, int table) {
-        for (int i = 0; i < calls; i++) {
+        int before = Due.asked();
+        if (next(4) == 0) {
+            fill();
+        }
+        while (Due.asked() - before < calls) {
             step(table);
         }
     }
 
     /** The largest tables are few: Naive is slow there. */
-    private static void large(int events, int steps, long seed, int calls) {
+    private static void large(int events, int steps, long seed) {
+        int calls = 400 - (events - 2) * 150;
         OracleTest run = new OracleTest(seed);
         Due.is("table", run.x.table(events, steps), run.y.table(events, steps));
         run.run(calls, 0);
     }
 
     public static void main(String[] args) {
-        int runs = args.length > 0 ? Integer.parseInt(args[0]) : 60;
+        int runs = args.length > 0 ? Integer.parseInt(args[0]) : 400;
         for (int i = 0; i < runs; i++) {
-            new OracleTest(i).run(400, i % 3);
+            new OracleTest(i).run(440, i % 3);
             OracleTest run = new OracleTest(i + 100000);
             int events = 2 + i % 3;
             int steps = 1 + i % (events == 4 ? 4 : 6);
             Due.is("table", run.x.table(events, steps), run.y.table(events, steps));
-            run.run(400, i % 3);
+            run.run(440, i % 3);
         }
-        large(2, 12, 1, 400);
-        large(3, 12, 2, 60);
-        large(4, 12, 3, 12);
+        for (int i = 0; i < 4; i++) {
+            large(2, 12, i);
+            large(3, 12, i);
+            large(4, 12, i);
+        }
         Due.end("OracleTest");
     }
 }

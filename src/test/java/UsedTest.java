@@ -2,6 +2,7 @@ import java.util.ArrayList;
 import java.util.Arrays;
 import java.util.List;
 import java.util.NoSuchElementException;
+import java.util.function.Supplier;
 
 /**
  * What was there before a table leaves nothing behind it: an object that has been through the largest
@@ -46,7 +47,7 @@ public final class UsedTest {
         return x;
     }
 
-    private static void begin(PaidForThinking x, int[] table, String[] pays) {
+    private static PaidForThinking begun(PaidForThinking x, int[] table, String[] pays) {
         x.table(table[0], table[1]);
         for (int i = 0; i < 4; i++) {
             Due.tell(x, i, pays[i]);
@@ -59,18 +60,25 @@ public final class UsedTest {
             x.evening(i % 2, i % n, i % table[0]);
         }
         x.word(1, 0, 1);
+        x.best(0, 0);
+        return x;
     }
 
-    /** All that the calls answer, each with the ROW behind it. */
-    private static List<Long> answers(PaidForThinking x) {
+    /** All that the calls answer, each with the ROW behind it; each object is asked for some of it alone. */
+    private static List<Long> answers(Supplier<PaidForThinking> made) {
         List<Long> all = new ArrayList<>();
-        int n = x.count(2);
+        int n = made.get().count(2);
         for (int p = 0; p < 4; p++) {
-            ofPay(x, p, all);
+            ofPay(made.get(), p, all);
             for (int t = 0; t < n; t++) {
-                ofThought(x, p, t, n, all);
+                ofThought(made.get(), p, t, n, all);
             }
         }
+        ofTheRest(made.get(), all);
+        return all;
+    }
+
+    private static void ofTheRest(PaidForThinking x, List<Long> all) {
         for (int i = 0; i < 7; i++) {
             add(x, all, x.meant(i));
             add(x, all, x.words(i));
@@ -83,7 +91,6 @@ public final class UsedTest {
         for (int s = -1; s < 20; s++) {
             add(x, all, partOf(x, s));
         }
-        return all;
     }
 
     private static long partOf(PaidForThinking x, int s) {
@@ -135,7 +142,8 @@ public final class UsedTest {
 
     private static void add(PaidForThinking x, List<Long> all, long answer) {
         all.add(answer);
-        for (int i = 0; i < x.count(7); i++) {
+        int numbers = x.count(7);
+        for (int i = 0; i < numbers; i++) {
             all.add(x.row(i));
         }
     }
@@ -143,14 +151,8 @@ public final class UsedTest {
     public static void main(String[] args) {
         for (int[] table : TABLES) {
             for (String[] pays : PAYS) {
-                PaidForThinking fresh = new PaidForThinking();
-                PaidForThinking used = used();
-                begin(fresh, table, pays);
-                begin(used, table, pays);
-                fresh.best(0, 0);
-                used.best(0, 0);
-                List<Long> due = answers(fresh);
-                List<Long> got = answers(used);
+                List<Long> due = answers(() -> begun(new PaidForThinking(), table, pays));
+                List<Long> got = answers(() -> begun(used(), table, pays));
                 String what = "table " + Arrays.toString(table) + " of " + pays[0];
                 Due.is(what + ": so many numbers", got.size(), due.size());
                 for (int i = 0; i < Math.min(got.size(), due.size()); i++) {
