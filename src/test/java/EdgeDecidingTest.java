@@ -162,6 +162,14 @@ public final class EdgeDecidingTest {
         Due.row("the ROW stays", x, 5, 2);
     }
 
+    @Says(promise = 41, value = "-2: none")
+    static void p41With21ItWouldDo() {
+        // (1, 3), that decides the other way, has 2 more for (2, 2) than the truth, (4, 0) for itself 32 more
+        PaidForThinking x = Due.with("2*d*q-s+5*(q=1)*(1-e)");
+        Due.is("20 do not do", x.coin(0, 2, 2, 4), -2);
+        Due.row("no ROW", x);
+    }
+
     @Says(promise = 41, value = "the first way, if its PART of EVENT 0 is at least so much")
     static void p41LeastNought() {
         // always the first way: b is paid for with the coin alone
@@ -255,6 +263,9 @@ public final class EdgeDecidingTest {
         says(3, 5, new int[] {3, 0, 2, 0}, "q", 0, 0, 0);
         says(2, 1, new int[] {1, 0, 0, 0}, "q", 0, 0, 0);
         says(2, 1, new int[] {0, 1, 0, 0}, "q", 1, 1, 1);
+        says(4, 1, new int[] {0, 1, 0, 0}, "q", 1, 1, 1);
+        says(4, 1, new int[] {0, 0, 1, 0}, "q", 2, 2, 2);
+        says(4, 1, new int[] {0, 0, 0, 1}, "q", 3, 3, 3);
     }
 
     @Says(promise = 42, value = "its mode (the first greatest PART)")

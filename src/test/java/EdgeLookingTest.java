@@ -170,6 +170,16 @@ public final class EdgeLookingTest {
         Due.row("5 by 3", x, 2);
     }
 
+    @Says(promise = 27, value = "The PAY told with which such times are the fewest")
+    static void p27TheFewestAheadOfOthers() {
+        PaidForThinking x = Due.with("4*q", "3*q", "2*q", "q");
+        Due.is("the first", x.purse(2, 50, 7), 0);
+        Due.row("7 by 4", x, 2);
+        Due.tell(x, 2, "9*q");
+        Due.is("one in the middle", x.purse(2, 50, 7), 2);
+        Due.row("7 by 9", x, 1);
+    }
+
     @Says(promise = 27, value = "of equal ones the first: it")
     static void p27OfEqualOnesTheFirst() {
         PaidForThinking x = Due.with("q", "2*q", "3*q", "4*q");
@@ -492,6 +502,15 @@ public final class EdgeLookingTest {
         bribed("q", new int[] {3, 0, 4, 0}, 4, -1);
     }
 
+    @Says(promise = 30, value = "(NONE: none)")
+    static void p30AgainstOneAndNotAgainstAnother() {
+        // (0, 4) has 2 more and the bribe too; (4, 0), with 2 more, has it not
+        bribed("((q<2)+(q=4))*(1-e)", new int[] {2, 1, 2, 9}, 0, -1);
+        bribed("((q=4)+(q=3))*(1-e)", new int[] {2, 1, 2, 9}, 0, 1);
+        bribed("((q=4)+(q=3)*40)*(1-e)", new int[] {2, 1, 2, 9}, 3, -1);
+        bribed("((q=4)*40+(q=3))*(1-e)", new int[] {2, 1, 2, 9}, 4, -1);
+    }
+
     @Says(promise = 30, value = "so that the THOUGHT itself is BEST (NONE: none).")
     static void p30NoMoreTimesThanTheBribeIsWorth() {
         // by q the truth (3, 1) is BEST only with a bribe for it, and taken but a few times
@@ -573,6 +592,9 @@ public final class EdgeLookingTest {
         safe(2, "2*d*q-s+3*(q=1)*e", -2);
         safe(2, "2*d*q-s+3*(q=1)*(1-e)", -2);
         safe(2, "2*d*q-s-(q=1)*e*5", -2);
+        // the first alone is better for (1, 1), and the last alone
+        safe(2, "2*d*q-s+9*(q=2)*e", -2);
+        safe(2, "2*d*q-s+9*(q=2)*(1-e)", -2);
     }
 
     @Says(promise = 31, value = "NONE.")

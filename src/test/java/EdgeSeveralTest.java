@@ -458,6 +458,15 @@ public final class EdgeSeveralTest {
         peers("q=1", 1, 1, 2, 1, 3, 0, 0);
     }
 
+    @Says(promise = 39, value = "pairs of SAYINGS from which neither could change alone for more: how many")
+    static void p39EachByItsOwnEvent() {
+        // the most is 1 for the one EVENT and 2 for the other
+        peers("(q=1)*(1+e)", 1, 3, 2, 1, 3, 0, 1);
+        peers("(q=1)*(1+e)", 3, 1, 2, 1, 3, 0, 1);
+        peers("(q=1)*(2-e)", 1, 3, 2, 1, 3, 0, 1);
+        peers("(q=1)*(2-e)", 3, 1, 2, 1, 3, 0, 1);
+    }
+
     @Says(promise = 39, value = "1 if both saying a THOUGHT each, told, is one of these (else 0).")
     static void p39BothSayingAThought() {
         peers("2*d*q-s", 0, 4, 2, 0, 0, 2, 0);

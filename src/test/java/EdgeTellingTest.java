@@ -146,6 +146,30 @@ public final class EdgeTellingTest {
         Edges.turnIs("TURN", x, 0, 1, -50, 11, 16, 25, 36, 49, 64, 81, 100, 121, 7);
     }
 
+    @Says(promise = 2, value = "EVENTS, STEPS become these")
+    static void p2NothingOfTheLastTable() {
+        PaidForThinking x = Due.with("8192*8192*31", "7", "9999");
+        x.table(4, 12);
+        for (int p = 0; p < 3; p++) {
+            x.ends(p);
+        }
+        x.table(2, 12);
+        x.table(2, 4);
+        Due.tell(x, 0, "2*d*q-s");
+        Due.is("best", x.best(1, 4), 5);
+        Due.is("could", x.could(1, 4), 5);
+        Due.is("gain", x.gain(0), 6);
+        Due.is("gain", x.gain(1), 0);
+        Due.is("peers", x.peers(1, 0, 4), 25);
+        Due.is("back", x.back(1) + x.count(7), 6);
+        Due.is("take", x.take(2), true);
+        Due.is("decide", x.decide(0, 4, 4, 4), 4);
+        Due.is("the least", x.ends(0), 0);
+        Due.row("the least and the greatest", x, -16, 16, 0, 0);
+        Due.is("rank", x.rank(0, 4, 4), 0);
+        Due.is("rank", x.rank(0, 4, 5), -2);
+    }
+
     @Says(promise = 2, value = "how many SAYINGS there are.")
     static void p2HowMany() {
         int[][] due = {{2, 3, 4, 5, 6, 7, 8, 9, 10, 11, 12, 13}, {3, 6, 10, 15, 21, 28, 36, 45, 55, 66, 78, 91},
@@ -225,6 +249,27 @@ public final class EdgeTellingTest {
         Due.is("one too few", x.saying(3, 0, 0, 0), -1);
         Due.is("one too many", x.saying(3, 2, 0, 0), -1);
         Due.is("nought", x.saying(0, 0, 0, 0), -1);
+    }
+
+    @Says(promise = 3, value = "NONE: it is none.")
+    static void p3NotStepsOfFour() {
+        PaidForThinking x = new PaidForThinking();
+        x.table(4, 4);
+        int[] parts = new int[4];
+        for (int e = 0; e < 4; e++) {
+            for (int p = -1; p < 6; p++) {
+                parts[e] = p;
+                Due.is(p + " of EVENT " + e, x.saying(parts[0], parts[1], parts[2], parts[3]) != -1, p == 4);
+            }
+            parts[e] = 0;
+        }
+        int s = x.saying(1, 1, 1, 1);
+        Due.is("(1, 1, 1, 1)", x.part(s, 3), 1);
+        int[][] wrong = {{0, 1, 1, 1}, {1, 0, 1, 1}, {1, 1, 0, 1}, {1, 1, 1, 0}, {2, 1, 1, 1}, {1, 2, 1, 1}, {1, 1, 2, 1},
+            {1, 1, 1, 2}};
+        for (int[] w : wrong) {
+            Due.is("one too few or too many", x.saying(w[0], w[1], w[2], w[3]), -1);
+        }
     }
 
     @Says(promise = 3, value = "NONE: it is none.")
@@ -678,6 +723,10 @@ public final class EdgeTellingTest {
             wrongAt("q" + sign, 1);
             wrongAt("123" + sign, 3);
             wrongAt("(q)" + sign, 3);
+            if (!sign.equals(")")) {
+                wrongAt("(q" + sign, 2);
+                wrongAt("((q)+1" + sign, 6);
+            }
         }
         wrongAt("q1", 1);
         wrongAt("(q)1", 3);
@@ -864,6 +913,16 @@ public final class EdgeTellingTest {
         ends("(q=0)*e", 0, 1, 0, 0);
         ends("-(q=4)*(1-e)", -1, 0, 4, 0);
         ends("-(q=4)*e", -1, 0, 0, 1);
+    }
+
+    @Says(promise = 11, value = "the first SAYING and its first EVENT with the least.")
+    static void p11InEachPlace() {
+        for (int s = 0; s < 5; s++) {
+            ends("-(q=" + s + ")*(e=0)", -1, 0, s, 0);
+            ends("-(q=" + (4 - s) + ")*(e=1)", -1, 0, s, 1);
+            ends("(q=" + s + ")*(e=0)", 0, 1, 0, s == 0 ? 1 : 0);
+            ends("(q=" + (4 - s) + ")*(e=1)", 0, 1, 0, 0);
+        }
     }
 
     @Says(promise = 11, value = "The least and the greatest a PAY ever is")
